@@ -799,7 +799,6 @@ public final class BeastRoad {
             return true;
         }
 
-        /** Tours are tried in the order of their numbers, so that the first of several alike stays. */
         private void visit(int depth, int town, int arrival, int broughtSoFar) {
             if (depth >= TOWNS || arrival > last[town]) {
                 return;
@@ -811,13 +810,18 @@ public final class BeastRoad {
             seen |= 1 << town;
             keepIfBetter(depth + 1, value);
             if (mayGetBetter(depth + 1, value)) {
-                for (int next = 0; next < towns; next++) {
-                    if (!has(seen, next)) {
-                        visit(depth + 1, next, leaving + ways[town * TOWNS + next], brought);
-                    }
-                }
+                goOn(depth, town, leaving, brought);
             }
             seen &= ~(1 << town);
+        }
+
+        /** Lower towns first: so the first tour that is found of several alike is the one to keep. */
+        private void goOn(int depth, int town, int leaving, int brought) {
+            for (int next = 0; next < towns; next++) {
+                if (!has(seen, next)) {
+                    visit(depth + 1, next, leaving + ways[town * TOWNS + next], brought);
+                }
+            }
         }
 
         private void keepIfBetter(int count, int value) {

@@ -5,6 +5,7 @@ public final class DaysTest {
     public static void main(String[] args) {
         newObject();
         kinds();
+        weightInEachWagon();
         beasts();
         goneBeasts();
         goneLimit();
@@ -73,6 +74,22 @@ public final class DaysTest {
         due.yes("2,000", road.kind(0, 100, 2));
         due.no("2,001", road.kind(0, 100, 3));
         due.yes("kind in no wagon", road.kind(3, 100, 1000));
+    }
+
+    private static void weightInEachWagon() {
+        BeastRoad road = new BeastRoad();
+        for (int i = 0; i < 3; i++) {
+            road.beast(6, 0);
+        }
+        for (int wagon = 0; wagon < 8; wagon++) {
+            for (int beast = 0; beast < 3; beast++) {
+                due.yes("load", road.load(beast, wagon));
+            }
+            due.no("2,001 in wagon " + wagon, road.kind(6, 1, 667));
+            due.yes("1,998 in wagon " + wagon, road.kind(6, 1, 666));
+            due.is("weight", road.wagon(wagon, 0), 1998);
+            road.kind(6, 1, 1);
+        }
     }
 
     // Promise 3

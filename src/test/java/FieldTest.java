@@ -239,9 +239,11 @@ public final class FieldTest {
         due.is("maybe", road.maybe(26), 2);
         due.is("as much", road.maybe(34), 2);
         due.is("where", road.where(), 26);
-        BeastRoad other = withBeasts(1);
-        other.away(0, 0);
-        due.is("cell 0", other.where(), 0);
+        for (int cell = 0; cell < 64; cell++) {
+            BeastRoad other = withBeasts(1);
+            other.away(0, cell);
+            due.is("where it got away", other.where(), cell);
+        }
     }
 
     // Promise 32

@@ -12,6 +12,7 @@ public final class LawsTest {
         longTape();
         laws();
         verdicts();
+        eachForbiddenKind();
         hours();
         fees();
         due.end();
@@ -190,6 +191,23 @@ public final class LawsTest {
             road.gone(beast, 1);
         }
         due.is("none are here", road.may(0, 20), 0);
+    }
+
+    /** One beast of each kind: each is found wherever it stands among the others. */
+    private static void eachForbiddenKind() {
+        BeastRoad road = new BeastRoad();
+        road.town(0, 0, 0);
+        for (int kind = 0; kind < 8; kind++) {
+            road.beast(kind, 0);
+        }
+        for (int kind = 0; kind < 8; kind++) {
+            Due.feedText(road, "no " + kind);
+            due.yes("no " + kind, road.law(0));
+            due.is("forbidden " + kind, road.may(0, 0), 1);
+            road.gone(kind, 0);
+            due.is("gone " + kind, road.may(0, 0), 0);
+            road.gone(kind, -1);
+        }
     }
 
     private static void hours() {
