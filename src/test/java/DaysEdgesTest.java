@@ -270,6 +270,14 @@ public final class DaysEdgesTest {
         due.is("RATION of 3", road.ration(3, 3), 2);
     }
 
+    static void p03OnDay400() {
+        BeastRoad road = Scene.onDay(400);
+        due.is("from 401", road.beast(0, 401), -1);
+        due.is("from 400", road.beast(0, 400), 0);
+        due.yes("on 400", road.here(0, 400, 400));
+        due.no("on 399", road.here(0, 399, 400));
+    }
+
     static void p03TheLastOfForty() {
         BeastRoad road = Scene.withBeasts(39);
         due.is("the 40th", road.beast(3, 0), 39);
@@ -323,6 +331,15 @@ public final class DaysEdgesTest {
         due.yes("gone(6, 3)", road.gone(6, 3));
         due.yes("on 2", road.here(6, 2, 3));
         due.no("on 3", road.here(6, 3, 3));
+    }
+
+    static void p04OnDay400() {
+        BeastRoad road = Scene.onDay(400);
+        road.beast(0, 0);
+        due.no("gone(0, 401)", road.gone(0, 401));
+        due.yes("gone(0, 400)", road.gone(0, 400));
+        due.yes("on 399", road.here(0, 399, 400));
+        due.no("on 400", road.here(0, 400, 400));
     }
 
     static void p04ADayBehindNow() {

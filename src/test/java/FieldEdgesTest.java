@@ -225,7 +225,7 @@ public final class FieldEdgesTest {
     }
 
     static void p27NoWayAroundTheEdges() {
-        int[][] ends = {{7, 8}, {8, 7}, {55, 56}, {56, 55}, {0, 7}, {7, 0}, {0, 56}, {56, 0}, {7, 63}, {63, 7}, {0, 63}};
+        int[][] ends = {{7, 8}, {8, 7}, {55, 56}, {56, 55}, {0, 7}, {7, 0}, {0, 56}, {56, 0}, {7, 63}, {63, 7}};
         for (int[] end : ends) {
             due.is(end[0] + " gives none to " + end[1], awayFor(end[0], 1).maybe(end[1]), 0);
         }
@@ -448,9 +448,10 @@ public final class FieldEdgesTest {
         due.is("found", road.where(), -1);
     }
 
-    static void p31FirstAndLastCell() {
-        due.is("0", awayAt(0).where(), 0);
-        due.is("63", awayAt(63).where(), 63);
+    static void p31EachCell() {
+        for (int cell = 0; cell < 64; cell++) {
+            due.is("where()", awayAt(cell).where(), cell);
+        }
     }
 
     static void p31OfSeveralTheLowest() {

@@ -86,6 +86,26 @@ public final class LawsEdgesTest {
                 road -> road.feed(BLANKS, BLANKS, BLANKS, BLANKS, BLANKS));
     }
 
+    /** Each byte but 0 counts, wherever it stands. */
+    static void p19OneByteToAFullTape() {
+        for (int value = 1; value < 256; value++) {
+            BeastRoad full = Scene.withTape(blanks(200));
+            for (int at = 0; at < 20; at++) {
+                due.is(value + " at " + at + " to 200", feedOne(full, value, at), -1);
+                due.is("bytes", full.count(6), 200);
+            }
+            BeastRoad nearly = Scene.withTape(blanks(199));
+            due.is(value + " to 199", feedOne(nearly, value, value % 20), 200);
+            due.is("fault", nearly.fault(), value == ' ' ? -1 : 199);
+        }
+    }
+
+    private static int feedOne(BeastRoad road, int value, int at) {
+        int[] numbers = new int[5];
+        numbers[at / 4] = value << 8 * (3 - at % 4);
+        return road.feed(numbers[0], numbers[1], numbers[2], numbers[3], numbers[4]);
+    }
+
     static void p19NothingOfARefusedFeedComes() {
         BeastRoad road = Scene.withTape(blanks(195) + "no 1");
         due.is("refused", road.feed(';' << 24 | 'x' << 16, 0, 0, 0, 0), -1);
@@ -540,6 +560,18 @@ public final class LawsEdgesTest {
         Due.feedText(other, "no 0");
         other.law(0);
         due.is("0", other.may(0, 0), 1);
+    }
+
+    static void p23OneOfManyIsForbidden() {
+        for (int forbidden = 0; forbidden < 8; forbidden++) {
+            BeastRoad road = withLaw("no " + forbidden);
+            for (int kind = 0; kind < 8; kind++) {
+                road.beast(kind, 0);
+            }
+            due.is("one of eight", road.may(0, 0), 1);
+            road.gone(forbidden, 0);
+            due.is("seven others", road.may(0, 0), 0);
+        }
     }
 
     static void p23ThoseHereNowAsKnownNow() {

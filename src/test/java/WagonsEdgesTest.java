@@ -378,6 +378,19 @@ public final class WagonsEdgesTest {
         checkOrder(road);
     }
 
+    static void p13AWagonThatHoldsNothingAnyMore() {
+        BeastRoad road = oneInEach();
+        due.is("order(0)", road.order(0), 0);
+        road.load(0, BeastRoad.NONE);
+        checkOrder(road, 1, 2, 3, 4, 5, 6, 7);
+        road.load(7, 6);
+        checkOrder(road, 1, 2, 3, 4, 5, 6);
+        road.bar(7, 5, true);
+        checkOrder(road, 1, 2, 3, 5, 4, 6);
+        road.load(7, 0);
+        checkOrder(road, 0, 1, 2, 3, 4, 5, 6);
+    }
+
     static void p13TheLowerWhereTheyFirstDiffer() {
         BeastRoad road = oneInEach();
         road.bar(0, 1, true);
