@@ -322,6 +322,26 @@ public final class FairsEdgesTest {
         checkTour(road, 3, 30, 3, 0, 2);
     }
 
+    /** The last town is in time by town 2 alone, with or without town 1 ahead of it. */
+    static void p18FewerTownsWhereThoseAheadBringNothing() {
+        BeastRoad road = new BeastRoad();
+        for (int town = 0; town < 3; town++) {
+            road.town(0, 100, 0);
+        }
+        road.town(0, 6, 10);
+        road.way(0, 1, 1);
+        road.way(0, 2, 1);
+        road.way(1, 2, 1);
+        road.way(2, 3, 1);
+        road.way(0, 3, 60);
+        road.way(1, 3, 60);
+        checkTour(road, 0, 10, 0, 2, 3);
+        road.way(0, 2, 60);
+        checkTour(road, 0, 10, 0, 1, 2, 3);
+        road.way(1, 2, 2);
+        checkTour(road, 0, 0);
+    }
+
     /** What a fair brings is just what the days to it cost. */
     static void p18FewerTownsWhereAFairIsWorthNothing() {
         BeastRoad road = new BeastRoad();
