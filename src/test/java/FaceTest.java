@@ -9,6 +9,7 @@ import java.nio.file.Path;
 import java.util.Arrays;
 import java.util.Set;
 import java.util.TreeSet;
+import java.util.regex.Matcher;
 import java.util.regex.Pattern;
 
 /** The public face is the document's and no more, and the source keeps to the part of Java it may use. */
@@ -24,6 +25,10 @@ public final class FaceTest {
         "int fee(int)", "boolean wall(int,boolean)", "boolean away(int,int)", "int hour()", "int look(int)",
         "long maybe(int)", "long chance(int,int)", "int where()", "int count(int)"};
 
+    private static final int PROMISES = 32;
+    private static final Class<?>[] EDGES = {DaysEdgesTest.class, WagonsEdgesTest.class, FairsEdgesTest.class,
+        LawsEdgesTest.class, FieldEdgesTest.class};
+
     // Words and signs that the language rules leave out, with and without a word's bounds.
     private static final String[] LEFT_OUT = {
         "\\bthrow\\b", "\\btry\\b", "\\bcatch\\b", "\\bsynchronized\\b", "\\bassert\\b", "->", "::", "Exact\\b",
@@ -34,6 +39,7 @@ public final class FaceTest {
         face();
         nested();
         source();
+        eachPromiseHasATest();
         due.end();
     }
 
@@ -76,6 +82,7 @@ public final class FaceTest {
                 due.no(method + " has a name of its own", names.contains(method.getName()));
                 due.yes(method + " has few parameters", method.getParameterCount() <= 7);
             }
+            due.yes(inside + " has few fields", inside.getDeclaredFields().length <= 20);
             for (Field field : inside.getDeclaredFields()) {
                 due.no(field + " is of objects", Modifier.isStatic(field.getModifiers()));
             }
@@ -88,6 +95,32 @@ public final class FaceTest {
                 .replaceAll("(?s)/\\*.*?\\*/", "").replaceAll("//[^\n]*", "");
         for (String left : LEFT_OUT) {
             due.no(left + " is in the source", Pattern.compile(left).matcher(code).find());
+        }
+        methodsAreShort(code);
+    }
+
+    /** From a line that begins a method to the bracket that stands just below its first letter. */
+    private static void methodsAreShort(String code) {
+        Pattern method = Pattern.compile("(?s)\n( {4}| {8})(?! )([^\n;=]*\\) \\{\n.*?)\n\\1\\}");
+        Matcher found = method.matcher(code);
+        int methods = 0;
+        while (found.find()) {
+            String text = found.group(2);
+            due.yes(text.substring(0, text.indexOf('\n')) + " is short", text.split("\n").length <= 60);
+            methods++;
+        }
+        due.yes("more methods than the face has are found; that", methods > FACE.length);
+    }
+
+    private static void eachPromiseHasATest() {
+        Set<String> numbers = new TreeSet<>();
+        for (Class<?> tests : EDGES) {
+            for (Method method : tests.getDeclaredMethods()) {
+                numbers.add(method.getName().substring(0, Math.min(3, method.getName().length())));
+            }
+        }
+        for (int promise = 1; promise <= PROMISES; promise++) {
+            due.yes("promise " + promise + " has a test", numbers.contains(String.format("p%02d", promise)));
         }
     }
 
